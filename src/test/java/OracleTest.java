@@ -13,6 +13,7 @@ import java.util.TreeSet;
 /** Random programs, each answer held against a second way to reckon it that is as plain as can be. */
 public final class OracleTest {
     private static final int PROGRAMS = 4000;
+    private static final int SPECIALS = 5;
     private static int wrong = 0;
     private static long asked = 0;
     private static int checkedPrograms = 0;
@@ -35,6 +36,11 @@ public final class OracleTest {
             }
             mill.clear();
             compare(seed, program, mill, random);
+        }
+        for (int k = 0; k < SPECIALS; k++) {
+            mill.clear();
+            compare(PROGRAMS + k, special(k), mill, new Random(k));
+            require("special program " + k + " is checked", mill.count(2) == 1);
         }
         for (int kind = 0; kind < 6; kind++) {
             require("fault " + kind + " was seen", faultsSeen.getOrDefault(kind, 0) > 20);
@@ -79,6 +85,70 @@ public final class OracleTest {
 
     private static final class Prog {
         List<Func> funcs = new ArrayList<>();
+    }
+
+    private static Func func(Prog program, int args, int locals) {
+        Func func = new Func();
+        func.args = args;
+        func.locals = locals;
+        program.funcs.add(func);
+        return func;
+    }
+
+    private static void add(Func func, int times, int... words) {
+        for (int i = 0; i < times; i++) {
+            for (int k = 0; k + 1 < words.length; k += 2) {
+                func.words.add(new int[] {words[k], words[k + 1]});
+            }
+        }
+    }
+
+    /** Programs as full as the document lets them be. */
+    private static Prog special(int k) {
+        Prog program = new Prog();
+        Func main = func(program, k == 0 ? 6 : 0, 10);
+        switch (k) {
+            case 0:
+                // 300 places, many of them a call with six ARGS.
+                add(main, 37, 0, 1, 0, 2, 0, 3, 0, 4, 0, 5, 0, 6, 14, 0, 2, 0);
+                add(main, 1, 1, 0, 1, 1, 3, 0, 15, 0);
+                break;
+            case 1:
+                add(main, 99, 0, 7, 0, 5, 17, 0);
+                add(main, 1, 0, 64, 16, 0, 15, 0);
+                break;
+            case 2:
+                // All 22 values at once, and 12 on the STACK again and again.
+                for (int v = 0; v < 10; v++) {
+                    add(main, 1, 0, v, 2, v);
+                }
+                add(main, 1, 12, 21);
+                add(main, 12, 1, 9);
+                add(main, 11, 10, 0, 3, 0);
+                for (int v = 0; v < 10; v++) {
+                    add(main, 1, 1, v, 3, 0);
+                }
+                add(main, 1, 15, 0);
+                break;
+            case 3:
+                // Each FUNC calls the next one with six ARGS, the last one nobody.
+                add(main, 6, 0, 2);
+                add(main, 1, 14, 1, 15, 0);
+                for (int f = 1; f < 12; f++) {
+                    Func func = func(program, 6, 10);
+                    add(func, 1, 1, 0, 1, 1, 1, 2, 1, 3, 1, 4, 1, 5, 1, 6, 3, 0);
+                    add(func, 1, f < 11 ? 14 : 5, f + 1);
+                    add(func, f < 11 ? 0 : 4, 3, 0);
+                    add(func, 1, 15, 0);
+                }
+                break;
+            default:
+                // 30 calls within one another, each with 11 left on its STACK.
+                add(main, 11, 0, 1);
+                add(main, 1, 14, 0, 15, 0);
+                break;
+        }
+        return program;
     }
 
     private static Prog shape(Random random) {

@@ -503,6 +503,21 @@ public final class PromiseTest {
         due("GO to itself", code(round, 0), "GO 0");
         due("runs", round.runRegisters(20000), 0);
         due("STEPS", round.look(1, 2), 20000);
+        // The first place is the only jump to where a block begins; the table is empty there.
+        RegisterMill first = checked(0, 1, "12 3, 0 9, 2 0, 1 0, 13 1, 1 0, 15");
+        due("turn", first.turn(3), 9);
+        due("a block behind the first jump", code(first, 0),
+            "SET 1 0; SAVE 0 1; GO 5; SET 0 9; SAVE 0 0; LOAD 1 0; IFNOT 1 3; LOAD 1 0; TELL 1");
+        dueRun("a block behind the first jump", first, 1, 9);
+        due("turn", first.turn(4), 6);
+        due("a block behind the first jump", code(first, 0),
+            "SET 0 0; GO 4; SET 1 9; MOVE 0 1; IFNOT 0 2; TELL 0");
+        RegisterMill op0 = checked(0, 0, "12 5, 0 1, 0 2, 3, 15, 0 0, 13 1, 0 3, 15");
+        due("turn", op0.turn(3), 17);
+        due("the first op jumps", code(op0, 0),
+            "GO 9; SET 1 1; SAVE 0 1; SET 0 2; LOAD 1 0; WORK 1 1 0 3; SAVE 0 1; LOAD 1 0; TELL 1; "
+            + "SET 1 0; SAVE 0 1; LOAD 1 0; IFNOT 1 1; SET 1 3; SAVE 0 1; LOAD 1 0; TELL 1");
+        dueRun("the first op jumps", op0, 1, 3);
         // Sums 5 .. 1 in a loop, with every number of SLOTS.
         RegisterMill count = checked(0, 2,
             "0 5, 2 0, 1 0, 13 13, 1 1, 1 0, 3, 2 1, 1 0, 0 1, 4, 2 0, 12 2, 1 1, 15");
