@@ -13,6 +13,7 @@ public final class RunEdgesTest extends Cases {
         againWhenNotTurned();
         againWithinARun();
         againBehindEveryEnd();
+        againBehindManyTraps();
         stepsOfTheEdge();
         refusedRunLeavesAll();
         fewestAndMostSteps();
@@ -191,6 +192,20 @@ public final class RunEdgesTest extends Cases {
                 due("again", x.again(), true);
                 dueBegun("end " + end, x);
             }
+        }
+    }
+
+    private static void againBehindManyTraps() {
+        // What calls left on their STACKS when a trap came is gone each time.
+        RegisterMill x = mill(0, 0, times(11, "0 1") + "14 1, 15");
+        addFunc(x, 0, 0, times(11, "0 1") + "14 1, 15");
+        due("check", x.check(), 0);
+        x.turn(3);
+        for (int i = 0; i < 100; i++) {
+            due("trap", x.runStack(20000), 4);
+            due("trap", x.runRegisters(20000), 4);
+            due("STEPS", x.look(0, 2), 12 * 30);
+            due("again", x.again(), true);
         }
     }
 

@@ -21,6 +21,7 @@ public final class TurnEdgesTest extends Cases {
         slotForGood();
         swapFirstInASlot();
         swapBothInSlots();
+        swapAboveTheLowest();
         twoReadsOfOneSlot();
         moveToItself();
         moveToItselfForgets();
@@ -33,6 +34,10 @@ public final class TurnEdgesTest extends Cases {
         leftOutRoundByRound();
         whatIsNeverLeftOut();
         liveOnOneWayOnly();
+        liveBehindTell();
+        liveBehindGo();
+        liveThroughAJumpBack();
+        liveAnewInEachRound();
         entryOfAllLocals();
         entryOfNone();
         entryOfTheOverwritten();
@@ -326,6 +331,12 @@ public final class TurnEdgesTest extends Cases {
         due("code with registers", code(x, 0), "SET 0 1; SET 1 2; SWAP 1 0; SET 2 3; READ 2 2; WRITE 1 0; GO 6");
     }
 
+    private static void swapAboveTheLowest() {
+        RegisterMill x = turned(5, 0, 0, "0 50, 0 7, 0 2, 10, 4, 3, 15");
+        due("code", code(x, 0), "SET 0 50; SET 1 7; SET 2 2; SWAP 2 1; WORK 1 1 2 4; WORK 0 0 1 3; TELL 0");
+        dueRun("run", x, 1, 45);
+    }
+
     private static void twoReadsOfOneSlot() {
         RegisterMill x = turned(3, 1, 1, "1 0, 9, 3, 11, 1 0, 15");
         due("code", code(x, 0), "TAKE 1 0; SAVE 0 1; LOAD 1 0; LOAD 2 0; WORK 0 1 2 3; LOAD 1 0; TELL 1");
@@ -426,6 +437,32 @@ public final class TurnEdgesTest extends Cases {
         x.cell(0, 1);
         x.again();
         dueRun("the other way", x, 1, 1);
+    }
+
+    private static void liveBehindTell() {
+        // What stands behind a TELL is not where it goes: LOCAL 0 is written there for nobody.
+        RegisterMill x = turned(4, 1, 1, "1 0, 13 6, 0 5, 2 0, 0 3, 15, 1 0, 15");
+        due("places", x.places(0), 4);
+        due("code", code(x, 0), "TAKE 0 0; IFNOT 0 4; SET 1 3; TELL 1; TELL 0");
+    }
+
+    private static void liveBehindGo() {
+        RegisterMill x = turned(4, 1, 1, "1 0, 13 5, 0 5, 2 0, 12 7, 1 0, 15, 0 3, 15");
+        due("places", x.places(0), 5);
+        due("code", code(x, 0), "TAKE 0 0; IFNOT 0 3; GO 4; TELL 0; SET 0 3; TELL 0");
+    }
+
+    private static void liveThroughAJumpBack() {
+        RegisterMill x = turned(5, 2, 2, "1 0, 1 1, 3, 13 0, 1 0, 15");
+        due("read at the first place alone", span(x, 0, 1), "0..1 r1 s-1");
+        due("and behind", span(x, 0, 0), "0..2 r0 s-1");
+    }
+
+    private static void liveAnewInEachRound() {
+        // LOCAL 0 was LIVE all around the loop for a MOVE that goes; then nobody reads it.
+        RegisterMill x = turned(3, 0, 2, "0 5, 2 0, 1 0, 2 1, 12 2");
+        due("places", x.places(0), 1);
+        due("code", code(x, 0), "GO 0");
     }
 
     private static RegisterMill sumOfLocals() {
